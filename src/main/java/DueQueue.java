@@ -142,6 +142,7 @@ public final class DueQueue {
     public int digits(int bits) throws IllegalArgumentException, IllegalStateException {
         needArgument(isDigitBits(bits));
         needState(hand.of(0).waits == 0 && hand.of(1).waits == 0);
+        // An act is kept in four numbers: here the bits stand where others have their item.
         return act(DIGITS, 0, bits, 0);
     }
 
@@ -434,11 +435,11 @@ public final class DueQueue {
         }
 
         boolean holds(int item) {
-            return knows(item) && where[item] >= 0;
+            return item >= 0 && item < came && where[item] >= 0;
         }
 
         boolean admits(long key) {
-            return key >= last && came < limit;
+            return key >= last && key <= MOST_KEY && came < limit;
         }
 
         boolean admitsAll(Buckets other) {
@@ -588,7 +589,10 @@ public final class DueQueue {
         }
 
         int fate(int item) {
-            if (holds(item)) {
+            if (!knows(item)) {
+                return NONE;
+            }
+            if (where[item] >= 0) {
                 return 0;
             }
             return where[item] == TAKEN ? 1 : 2;
@@ -716,6 +720,7 @@ public final class DueQueue {
 
         void keep(int kind, int queue, int item, long key) {
             if (kept == MOST) {
+                before.apply(kinds[0], queues[0], items[0], keys[0]);
                 forgetOldest();
             }
             kinds[kept] = kind;
@@ -726,7 +731,6 @@ public final class DueQueue {
         }
 
         private void forgetOldest() {
-            repeat(before, 0);
             kept--;
             System.arraycopy(kinds, 1, kinds, 0, kept);
             System.arraycopy(queues, 1, queues, 0, kept);
@@ -742,13 +746,9 @@ public final class DueQueue {
             kept--;
             hand.copy(before);
             for (int i = 0; i < kept; i++) {
-                repeat(hand, i);
+                hand.apply(kinds[i], queues[i], items[i], keys[i]);
             }
             return kept;
-        }
-
-        private void repeat(Hand hand, int i) {
-            hand.apply(kinds[i], queues[i], items[i], keys[i]);
         }
     }
 
@@ -952,6 +952,9 @@ public final class DueQueue {
         }
 
         private void closeLoop() {
+            if (nested <= 0) {
+                return;
+            }
             nested--;
             int start = starts[nested];
             int body = steps - start;
@@ -1112,12 +1115,21 @@ public final class DueQueue {
             comeTo(from, 0);
             mostWaiting = queue.waits;
             for (int turn = 0; turn < NODES && queue.waits > 0; turn++) {
-                int node = nodeOf[queue.takeNext()];
-                rank[node] = reached;
-                reached++;
-                followEdges(chart, node);
+                followEdges(chart, reachNext());
                 mostWaiting = Math.max(mostWaiting, queue.waits);
             }
+        }
+
+        /** The node that is reached; NONE, if none waits. */
+        private int reachNext() {
+            int item = queue.takeNext();
+            if (item < 0 || item >= NODES) {
+                return NONE;
+            }
+            int node = nodeOf[item];
+            rank[node] = reached;
+            reached++;
+            return node;
         }
 
         private void comeTo(int node, long far) {
@@ -1153,7 +1165,8 @@ public final class DueQueue {
         }
 
         int countEdgesTo(int to) {
-            return Integer.bitCount(nodesTo(to)) - 1;
+            // No node stands twice on a way, so it has one edge less than nodes.
+            return rank[to] == NONE ? NONE : Integer.bitCount(nodesTo(to)) - 1;
         }
 
         int nodesTo(int to) {
@@ -1162,7 +1175,7 @@ public final class DueQueue {
             }
             int onTheWay = 0;
             int node = to;
-            for (int i = 0; i < NODES && node != NONE; i++) {
+            for (int i = 0; i < NODES && isNode(node); i++) {
                 onTheWay |= 1 << node;
                 node = by[node];
             }
@@ -1201,13 +1214,23 @@ public final class DueQueue {
             for (int event = 0; event < chart.events; event++) {
                 bring(chart.eventLetter[event], chart.eventAt[event]);
             }
-            while (happenings < REPLAY_HAPPENINGS && queue.waits > 0 && queue.leastKey() <= till) {
-                int item = queue.takeNext();
-                items[happenings] = item;
-                happenings++;
-                counts[letters[item]]++;
-                followRules(chart, letters[item]);
+            for (int turn = 0; turn < REPLAY_HAPPENINGS && isDue(till); turn++) {
+                happen(chart, queue.takeNext());
             }
+        }
+
+        private boolean isDue(long till) {
+            return queue.waits > 0 && queue.leastKey() <= till;
+        }
+
+        private void happen(Chart chart, int item) {
+            if (item < 0 || item >= REPLAY_ITEMS || happenings >= REPLAY_HAPPENINGS) {
+                return;
+            }
+            items[happenings] = item;
+            happenings++;
+            counts[letters[item]]++;
+            followRules(chart, letters[item]);
         }
 
         private void followRules(Chart chart, int letter) {
