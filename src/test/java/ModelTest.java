@@ -15,7 +15,7 @@ public final class ModelTest {
     public static void main(String[] args) {
         Check all = new Check();
         long answers = 0;
-        for (long seed = 0; seed < 1500 && all.isFine(); seed++) {
+        for (long seed = 0; seed < 1800 && all.isFine(); seed++) {
             ModelTest one = new ModelTest(seed);
             int calls = one.go((int) (seed % 6));
             answers += calls;
@@ -55,12 +55,48 @@ public final class ModelTest {
     }
 
     private void anyCall() {
-        switch (random.nextInt(4)) {
+        switch (random.nextInt(5)) {
             case 0 -> handCall();
             case 1 -> planCall();
             case 2 -> chartCall();
+            case 3 -> edgeCall();
             default -> textCall();
         }
+    }
+
+    /** Numbers from the edges of all ranges, in any mixture. */
+    private void edgeCall() {
+        int[] ints = {Integer.MIN_VALUE, -2, -1, 0, 1, 2, 4, 5, 8, 15, 16, 199, 200, 300, 500, Integer.MAX_VALUE};
+        long[] longs = {Long.MIN_VALUE, -1, 0, 1, 1 << 30, Model.TOP, Model.TOP + 1, Long.MAX_VALUE};
+        int a = one(2) ? random.nextInt(4) : ints[random.nextInt(ints.length)];
+        int b = one(2) ? random.nextInt(4) : ints[random.nextInt(ints.length)];
+        int c = one(2) ? random.nextInt(4) : ints[random.nextInt(ints.length)];
+        int d = ints[random.nextInt(ints.length)];
+        long e = longs[random.nextInt(longs.length)];
+        switch (random.nextInt(20)) {
+            case 0 -> same("plan(" + a + ")", () -> real.plan(a), () -> model.plan(a));
+            case 1 -> same("chart(" + a + ")", () -> real.chart(a), () -> model.chart(a));
+            case 2 -> same("push", () -> real.push(a, e), () -> model.push(a, e));
+            case 3 -> same("pop", () -> real.pop(a), () -> model.pop(a));
+            case 4 -> same("lessen", () -> real.lessen(a, b, e), () -> model.lessen(a, b, e));
+            case 5 -> same("drop", () -> real.drop(a, b), () -> model.drop(a, b));
+            case 6 -> same("pour", () -> real.pour(a), () -> model.pour(a));
+            case 7 -> same("digits", () -> real.digits(a), () -> model.digits(a));
+            case 8 -> same("told", () -> real.told(a), () -> model.told(a));
+            case 9 -> same("queue", () -> real.queue(a, b), () -> model.queue(a, b));
+            case 10 -> same("item", () -> real.item(a, b, c), () -> model.item(a, b, c));
+            case 11 -> same("bucket", () -> real.bucket(a, b), () -> model.bucket(a, b));
+            case 12 -> same("order", () -> real.order(a, b), () -> model.order(a, b));
+            case 13 -> same("run", () -> real.run(a, b), () -> model.run(a, b));
+            case 14 -> same("taken", () -> real.taken(a, b, c), () -> model.taken(a, b, c));
+            case 15 -> same("way", () -> real.way(a, b, c, d), () -> model.way(a, b, c, d));
+            case 16 -> same("ways", () -> real.ways(a, b, c), () -> model.ways(a, b, c));
+            case 17 -> same("nodes", () -> real.nodes(a, b, c), () -> model.nodes(a, b, c));
+            case 18 -> same("replay", () -> real.replay(a, e, b), () -> model.replay(a, e, b));
+            default -> same("happened", () -> real.happened(a, e, b, c), () -> model.happened(a, e, b, c));
+        }
+        same("status(" + a + ")", () -> real.status(a), () -> model.status(a));
+        same("print()", real::print, model::print);
     }
 
     // ---- the queues by hand
