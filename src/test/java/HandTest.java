@@ -71,13 +71,25 @@ public final class HandTest {
         return all.toString();
     }
 
+    /** A look of few calls, as an object has no more than 512; RefusalTest looks at all. */
+    private static String glance(DueQueue x) {
+        List<Long> all = new ArrayList<>();
+        all.add(x.print());
+        all.add((long) x.told(6));
+        for (int queue = 0; queue <= 1; queue++) {
+            all.add(x.queue(queue, 1));
+            all.add(x.queue(queue, 6));
+        }
+        return all.toString();
+    }
+
     /** The call throws this very exception, and nothing but status() is changed by it. */
     private static void refused(String what, DueQueue x, String exception, Check.Call call) {
         String[] names = {Check.INDEX, Check.ARGUMENT, Check.STATE, Check.ELEMENT};
-        String before = seen(x);
+        String before = glance(x);
         int[] counts = {x.status(0), x.status(1), x.status(2), x.status(3)};
         CHECK.throwing(what, exception, call);
-        CHECK.same(what + " changes nothing", before, seen(x));
+        CHECK.same(what + " changes nothing", before, glance(x));
         for (int i = 0; i < 4; i++) {
             CHECK.due(what + ", status(" + i + ")", counts[i] + (names[i].equals(exception) ? 1 : 0),
                     x.status(i));
@@ -344,49 +356,58 @@ public final class HandTest {
     }
 
     private static void undoOfEachAct() {
+        takenBack("push", x -> x.push(0, 4));
+        takenBack("pop", x -> x.pop(0));
+        takenBack("lessen", x -> x.lessen(0, 0, 1));
+        takenBack("lessen to nothing else", x -> x.lessen(0, 0, 12));
+        takenBack("drop", x -> x.drop(0, 0));
+        takenBack("pour", x -> x.pour(0));
+        takenBack("pour", x -> x.pour(1));
+        takenBack("clear", x -> x.clear(1));
+        takenBack("clear, then digits", x -> x.clear(0) + x.clear(1) + x.digits(3));
+        takenBack("clear of an empty one", x -> x.clear(0) + x.clear(0));
+        takenBack("pour of an empty one", x -> x.pour(0) + x.pour(0));
+    }
+
+    /** Each act of the call taken back, all is as it was. */
+    private static void takenBack(String what, Look.Use call) {
         DueQueue x = with(12, 9);
         x.push(1, 30);
-        takenBack(x, "push", () -> x.push(0, 4));
-        takenBack(x, "pop", () -> x.pop(0));
-        takenBack(x, "lessen", () -> x.lessen(0, 0, 1));
-        takenBack(x, "lessen to nothing else", () -> x.lessen(0, 0, 12));
-        takenBack(x, "drop", () -> x.drop(0, 0));
-        takenBack(x, "pour", () -> x.pour(0));
-        takenBack(x, "pour", () -> x.pour(1));
-        takenBack(x, "clear", () -> x.clear(1));
-        DueQueue y = new DueQueue();
-        takenBack(y, "digits", () -> y.digits(3));
-        takenBack(y, "digits as they were", () -> y.digits(1));
-        takenBack(y, "clear of an empty one", () -> y.clear(0));
-        takenBack(y, "pour of an empty one", () -> y.pour(0));
+        String before = seen(x);
+        call.on(x);
+        int acts = x.told(6) - 3;
+        CHECK.due(what + " is an act", 1, acts >= 1 && acts <= 3 ? 1 : 0);
+        for (int left = acts - 1; left >= 0; left--) {
+            CHECK.due(what + " taken back", 3 + left, x.undo());
+        }
+        CHECK.same(what + " taken back: all is as before", before, seen(x));
     }
 
     private static void undoOfALongRun() {
-        DueQueue x = new DueQueue();
-        List<Check.Call> acts = List.of(() -> x.digits(2), () -> x.push(1, 40), () -> x.push(0, 12),
-                () -> x.push(0, 9), () -> x.push(1, 8), () -> x.push(0, 33), () -> x.pop(0),
-                () -> x.lessen(0, 2, 10), () -> x.drop(0, 0), () -> x.pour(1), () -> x.push(0, 20),
-                () -> x.pop(1), () -> x.clear(0), () -> x.pour(0), () -> x.pop(0), () -> x.lessen(0, 1, 39));
-        List<String> before = new ArrayList<>();
-        for (Check.Call act : acts) {
-            before.add(seenQueues(x));
-            act.answer();
-        }
+        List<Look.Use> acts = List.of(x -> x.digits(2), x -> x.push(1, 40), x -> x.push(0, 12),
+                x -> x.push(0, 9), x -> x.push(1, 8), x -> x.push(0, 33), x -> x.pop(0),
+                x -> x.lessen(0, 2, 10), x -> x.drop(0, 0), x -> x.pour(1), x -> x.push(0, 20),
+                x -> x.pop(1), x -> x.clear(0), x -> x.pour(0), x -> x.pop(0), x -> x.lessen(0, 1, 39));
         for (int left = 7; left >= 0; left--) {
-            CHECK.due("undo of a long run", left, x.undo());
-            CHECK.same("as it was, " + left + " left", before.get(acts.size() - 8 + left), seenQueues(x));
+            DueQueue x = after(acts);
+            for (int times = 7; times >= left; times--) {
+                CHECK.due("undo of a long run", times, x.undo());
+            }
+            DueQueue never = after(acts.subList(0, acts.size() - 8 + left));
+            CHECK.same("as it was, " + left + " left", seenQueues(never), seenQueues(x));
+            if (left == 0) {
+                CHECK.due("no more of it", -1, x.undo());
+                CHECK.same("and nothing is done", seenQueues(never), seenQueues(x));
+            }
         }
-        CHECK.due("no more of it", -1, x.undo());
-        CHECK.same("and nothing is done", before.get(acts.size() - 8), seenQueues(x));
     }
 
-    private static void takenBack(DueQueue x, String what, Check.Call act) {
-        String before = seen(x);
-        int acts = x.told(6);
-        act.answer();
-        CHECK.due(what + " is an act", acts + 1, x.told(6));
-        CHECK.due(what + " taken back", acts, x.undo());
-        CHECK.same(what + " taken back: all is as before", before, seen(x));
+    private static DueQueue after(List<Look.Use> acts) {
+        DueQueue x = new DueQueue();
+        for (Look.Use act : acts) {
+            act.on(x);
+        }
+        return x;
     }
 
     private static void queueTells() {

@@ -2,11 +2,15 @@ import java.util.Random;
 
 /** Random runs of calls, each answer held against the Model's; the seeds are fixed. */
 public final class ModelTest {
+    /** An object is used for 512 calls; a turn has a few dozen at most. */
+    private static final int MOST_CALLS = 480;
+
     private final Check check = new Check();
     private final Random random;
     private final DueQueue real = new DueQueue();
     private final Model model = new Model();
     private final StringBuilder told = new StringBuilder();
+    private int calls;
 
     private ModelTest(long seed) {
         random = new Random(seed);
@@ -31,7 +35,7 @@ public final class ModelTest {
 
     /** How many calls there were: it ends with the first answer that differs. */
     private int go(int sort) {
-        for (int call = 0; call < 400; call++) {
+        while (calls < MOST_CALLS && check.isFine()) {
             switch (sort) {
                 case 0 -> handCall();
                 case 1 -> fullHandCall();
@@ -40,14 +44,12 @@ public final class ModelTest {
                 case 4 -> textCall();
                 default -> anyCall();
             }
-            if (!check.isFine()) {
-                return call + 1;
-            }
         }
-        return 400;
+        return calls;
     }
 
     private void same(String call, Check.Call mine, Check.Call due) {
+        calls++;
         String want = Check.outcome(due);
         String got = Check.outcome(mine);
         told.append(call).append(" -> ").append(got).append('\n');
@@ -115,7 +117,7 @@ public final class ModelTest {
     }
 
     private void fullHandCall() {
-        int queue = random.nextInt(2);
+        int queue = one(4) ? 1 : 0;
         if (!one(3)) {
             push(queue);
         } else {
