@@ -1,12 +1,20 @@
+import java.util.Map;
 import java.util.Random;
+import java.util.TreeMap;
 
 /** Random runs of calls, each answer held against the Model's; the seeds are fixed. */
 public final class ModelTest {
     /** An object is used for 512 calls; a turn has a few dozen at most. */
-    private static final int MOST_CALLS = 480;
+    private static final int MOST_CALLS = 470;
+    private static final int RUNS = 1800;
+    private static final String ANSWERED = "answered";
+
+    /** How often each call ended in each way, over all runs: what they reach is looked at, too. */
+    private static final Map<String, Integer> REACH = new TreeMap<>();
 
     private final Check check = new Check();
     private final Random random;
+    private final RandomText texts;
     private final DueQueue real = new DueQueue();
     private final Model model = new Model();
     private final StringBuilder told = new StringBuilder();
@@ -14,24 +22,85 @@ public final class ModelTest {
 
     private ModelTest(long seed) {
         random = new Random(seed);
+        texts = new RandomText(random);
     }
 
     public static void main(String[] args) {
         Check all = new Check();
         long answers = 0;
-        for (long seed = 0; seed < 1800 && all.isFine(); seed++) {
+        for (int seed = 0; seed < RUNS && all.isFine(); seed++) {
             ModelTest one = new ModelTest(seed);
-            int calls = one.go((int) (seed % 6));
+            one.setDigits(1 + seed / 6 % 4);
+            int calls = one.go(seed % 6);
             answers += calls;
             all.same("run of seed " + seed + " with " + calls + " calls", "true",
-                    Boolean.toString(one.check.isFine()));
+                    Boolean.toString(one.check.isFine() && calls <= 512));
             if (!one.check.isFine()) {
                 System.out.println(one.told);
             }
         }
         System.out.println("ModelTest: " + answers + " answers of random runs");
+        if (all.isFine()) {
+            lookAtReach(all);
+        }
         all.end("ModelTest");
     }
+
+    // ---- what the runs reach
+
+    /** Runs that seldom come somewhere show nothing about it: each way of each call must come often. */
+    private static void lookAtReach(Check all) {
+        for (String act : new String[] {"push", "pop", "lessen", "drop", "pour", "digits", "clear", "undo", "order"}) {
+            for (int bits = 1; bits <= 4; bits++) {
+                reached(all, act + " by " + bits + " " + ANSWERED, 200);
+            }
+        }
+        for (String text : new String[] {"plan", "chart"}) {
+            for (int fault = -9; fault <= -7; fault++) {
+                reached(all, text + " " + fault, 100);
+            }
+        }
+        for (String asked : new String[] {"run", "taken", "way", "ways", "nodes", "replay", "happened"}) {
+            reached(all, asked + " above 0", 2000);
+        }
+        for (String asked : new String[] {"told", "queue", "item", "bucket", "order"}) {
+            reached(all, asked + " above 0", 1000);
+        }
+        reachedRefusals(all, Check.INDEX, "push", "pop", "lessen", "drop", "pour", "clear", "queue", "item",
+                "bucket", "order");
+        reachedRefusals(all, Check.ARGUMENT, "plan", "chart", "push", "lessen", "digits", "told", "queue", "item",
+                "run", "taken", "way", "ways", "nodes", "replay", "happened");
+        reachedRefusals(all, Check.STATE, "push", "pop", "lessen", "drop", "pour", "digits");
+        reachedRefusals(all, Check.ELEMENT, "lessen", "drop", "item", "order", "taken", "way", "ways", "nodes",
+                "happened");
+    }
+
+    private static void reachedRefusals(Check all, String reason, String... calls) {
+        for (String call : calls) {
+            reached(all, call + " " + reason, 100);
+        }
+    }
+
+    private static void reached(Check all, String what, int often) {
+        int count = REACH.getOrDefault(what, 0);
+        all.same("the runs reach '" + what + "' " + often + " times (" + count + ")", "true",
+                Boolean.toString(count >= often));
+    }
+
+    private void noteReach(String name, String got) {
+        boolean isNumber = !got.endsWith("Exception");
+        note(name + " " + (isNumber ? ANSWERED : got));
+        note(name + " by " + model.state.bits + " " + (isNumber ? ANSWERED : got));
+        if (isNumber) {
+            note(name + " " + (Long.parseLong(got) > 0 ? "above 0" : got));
+        }
+    }
+
+    private static void note(String what) {
+        REACH.merge(what, 1, Integer::sum);
+    }
+
+    // ---- runs
 
     /** How many calls there were: it ends with the first answer that differs. */
     private int go(int sort) {
@@ -54,6 +123,9 @@ public final class ModelTest {
         String got = Check.outcome(mine);
         told.append(call).append(" -> ").append(got).append('\n');
         check.same(call, want, got);
+        if (want.equals(got)) {
+            noteReach(call.substring(0, call.indexOf('(')), got);
+        }
     }
 
     private void anyCall() {
@@ -78,40 +150,47 @@ public final class ModelTest {
         switch (random.nextInt(20)) {
             case 0 -> same("plan(" + a + ")", () -> real.plan(a), () -> model.plan(a));
             case 1 -> same("chart(" + a + ")", () -> real.chart(a), () -> model.chart(a));
-            case 2 -> same("push", () -> real.push(a, e), () -> model.push(a, e));
-            case 3 -> same("pop", () -> real.pop(a), () -> model.pop(a));
-            case 4 -> same("lessen", () -> real.lessen(a, b, e), () -> model.lessen(a, b, e));
-            case 5 -> same("drop", () -> real.drop(a, b), () -> model.drop(a, b));
-            case 6 -> same("pour", () -> real.pour(a), () -> model.pour(a));
-            case 7 -> same("digits", () -> real.digits(a), () -> model.digits(a));
-            case 8 -> same("told", () -> real.told(a), () -> model.told(a));
-            case 9 -> same("queue", () -> real.queue(a, b), () -> model.queue(a, b));
-            case 10 -> same("item", () -> real.item(a, b, c), () -> model.item(a, b, c));
-            case 11 -> same("bucket", () -> real.bucket(a, b), () -> model.bucket(a, b));
-            case 12 -> same("order", () -> real.order(a, b), () -> model.order(a, b));
-            case 13 -> same("run", () -> real.run(a, b), () -> model.run(a, b));
-            case 14 -> same("taken", () -> real.taken(a, b, c), () -> model.taken(a, b, c));
-            case 15 -> same("way", () -> real.way(a, b, c, d), () -> model.way(a, b, c, d));
-            case 16 -> same("ways", () -> real.ways(a, b, c), () -> model.ways(a, b, c));
-            case 17 -> same("nodes", () -> real.nodes(a, b, c), () -> model.nodes(a, b, c));
-            case 18 -> same("replay", () -> real.replay(a, e, b), () -> model.replay(a, e, b));
-            default -> same("happened", () -> real.happened(a, e, b, c), () -> model.happened(a, e, b, c));
+            case 2 -> push(a, e);
+            case 3 -> pop(a);
+            case 4 -> lessen(a, b, e);
+            case 5 -> drop(a, b);
+            case 6 -> pour(a);
+            case 7 -> {
+                setDigits(a);
+                clear(d);
+            }
+            case 8 -> same("told(" + a + ")", () -> real.told(a), () -> model.told(a));
+            case 9 -> askQueue(a, b);
+            case 10 -> askItem(a, b, c);
+            case 11 -> askBucket(a, b);
+            case 12 -> askOrder(a, b);
+            case 13 -> askRun(a, b);
+            case 14 -> askTaken(a, b, c);
+            case 15 -> askWay(a, b, c, d);
+            case 16 -> askWays(a, b, c);
+            case 17 -> askNodes(a, b, c);
+            case 18 -> askReplay(a, e, b);
+            default -> askHappened(a, e, b, c);
         }
         same("status(" + a + ")", () -> real.status(a), () -> model.status(a));
+        print();
+    }
+
+    private void print() {
         same("print()", real::print, model::print);
     }
 
     // ---- the queues by hand
 
     private void handCall() {
-        int queue = one(40) ? random.nextInt(5) - 2 : random.nextInt(2);
+        int queue = one(30) ? random.nextInt(5) - 2 : random.nextInt(2);
         switch (random.nextInt(20)) {
-            case 0, 1, 2, 3, 4, 5 -> push(queue);
+            case 0, 1, 2, 3, 4, 5 -> push(queue, key(queue));
             case 6, 7, 8 -> pop(queue);
             case 9, 10 -> lessen(queue);
-            case 11 -> drop(queue);
+            case 11 -> drop(queue, item(queue));
             case 12 -> seldomAct(queue);
-            case 13 -> same("undo()", real::undo, model::undo);
+            case 13 -> undo();
             default -> askHand(queue);
         }
     }
@@ -119,14 +198,13 @@ public final class ModelTest {
     private void fullHandCall() {
         int queue = one(4) ? 1 : 0;
         if (!one(3)) {
-            push(queue);
+            push(queue, key(queue));
         } else {
             handCall();
         }
     }
 
-    private void push(int queue) {
-        long key = key(queue);
+    private void push(int queue, long key) {
         same("push(" + queue + ", " + key + ")", () -> real.push(queue, key), () -> model.push(queue, key));
     }
 
@@ -137,164 +215,220 @@ public final class ModelTest {
     private void lessen(int queue) {
         int item = item(queue);
         long key = key(queue);
+        Model.Heap heap = heap(queue);
+        if (heap.holds(item) && !one(4)) {
+            long room = heap.items.get(item).key - heap.last;
+            key = heap.last + (one(4) ? room : random.nextLong(room + 1)) + (one(10) ? 1 : 0);
+        }
+        lessen(queue, item, key);
+    }
+
+    private void lessen(int queue, int item, long key) {
         same("lessen(" + queue + ", " + item + ", " + key + ")", () -> real.lessen(queue, item, key),
                 () -> model.lessen(queue, item, key));
     }
 
-    private void drop(int queue) {
-        int item = item(queue);
+    private void drop(int queue, int item) {
         same("drop(" + queue + ", " + item + ")", () -> real.drop(queue, item), () -> model.drop(queue, item));
     }
 
+    private void pour(int queue) {
+        same("pour(" + queue + ")", () -> real.pour(queue), () -> model.pour(queue));
+    }
+
+    private void clear(int queue) {
+        same("clear(" + queue + ")", () -> real.clear(queue), () -> model.clear(queue));
+    }
+
+    private void setDigits(int bits) {
+        same("digits(" + bits + ")", () -> real.digits(bits), () -> model.digits(bits));
+    }
+
     private void seldomAct(int queue) {
-        int bits = random.nextInt(6);
-        switch (random.nextInt(6)) {
-            case 0 -> same("clear(" + queue + ")", () -> real.clear(queue), () -> model.clear(queue));
-            case 1, 2 -> same("digits(" + bits + ")", () -> real.digits(bits), () -> model.digits(bits));
-            default -> same("pour(" + queue + ")", () -> real.pour(queue), () -> model.pour(queue));
+        switch (random.nextInt(10)) {
+            case 0 -> clear(queue);
+            case 1, 2 -> setDigits(random.nextInt(6));
+            case 3 -> otherDigits();
+            default -> pour(queue);
+        }
+    }
+
+    /** Other digits need empty queues: cleared, or taken to the end, so that LAST stays. */
+    private void otherDigits() {
+        for (int queue = 0; queue < 2; queue++) {
+            if (one(2) || heap(queue).waiting().size() > 10) {
+                clear(queue);
+            }
+            while (!heap(queue).waiting().isEmpty()) {
+                pop(queue);
+            }
+        }
+        setDigits(1 + random.nextInt(4));
+    }
+
+    /** Several at a time now and then: down to the eighth act, and beyond. */
+    private void undo() {
+        int times = one(3) ? 1 + random.nextInt(9) : 1;
+        for (int i = 0; i < times; i++) {
+            same("undo()", real::undo, model::undo);
         }
     }
 
     private void askHand(int queue) {
-        int what = random.nextInt(9) - 1;
-        int item = item(queue);
-        int bucket = random.nextInt(20) == 0 ? random.nextInt() : random.nextInt(160) - 3;
+        int what = what(6);
         switch (random.nextInt(8)) {
             case 0 -> same("told(" + what + ")", () -> real.told(what), () -> model.told(what));
-            case 1, 2 -> same("queue(" + queue + ", " + what + ")", () -> real.queue(queue, what),
-                    () -> model.queue(queue, what));
-            case 3, 4 -> same("item(" + queue + ", " + item + ", " + what + ")",
-                    () -> real.item(queue, item, what), () -> model.item(queue, item, what));
-            case 5 -> same("bucket(" + queue + ", " + bucket + ")", () -> real.bucket(queue, bucket),
-                    () -> model.bucket(queue, bucket));
-            case 6 -> same("order(" + queue + ", " + item + ")", () -> real.order(queue, item),
-                    () -> model.order(queue, item));
-            default -> same("print()", real::print, model::print);
+            case 1, 2 -> askQueue(queue, what);
+            case 3, 4 -> askItem(queue, item(queue), what(4));
+            case 5 -> askBucket(queue, bucketNumber(queue));
+            case 6 -> askOrder(queue, random.nextInt(heap(queue).waiting().size() + 2) - (one(10) ? 1 : 0));
+            default -> print();
         }
         same("status(" + what + ")", () -> real.status(what), () -> model.status(what));
-        same("print()", real::print, model::print);
+        print();
+    }
+
+    private void askQueue(int queue, int what) {
+        same("queue(" + queue + ", " + what + ")", () -> real.queue(queue, what), () -> model.queue(queue, what));
+    }
+
+    private void askItem(int queue, int item, int what) {
+        same("item(" + queue + ", " + item + ", " + what + ")", () -> real.item(queue, item, what),
+                () -> model.item(queue, item, what));
+    }
+
+    private void askBucket(int queue, int bucket) {
+        same("bucket(" + queue + ", " + bucket + ")", () -> real.bucket(queue, bucket),
+                () -> model.bucket(queue, bucket));
+    }
+
+    private void askOrder(int queue, int k) {
+        same("order(" + queue + ", " + k + ")", () -> real.order(queue, k), () -> model.order(queue, k));
+    }
+
+    /** Mostly one that has an item. */
+    private int bucketNumber(int queue) {
+        int item = item(queue);
+        if (heap(queue).holds(item) && !one(3)) {
+            return heap(queue).items.get(item).bucket;
+        }
+        return one(10) ? random.nextInt() : random.nextInt(160) - 3;
+    }
+
+    private Model.Heap heap(int queue) {
+        return model.state.heaps[queue == 1 ? 1 : 0];
     }
 
     private long key(int queue) {
-        long last = queue == 0 || queue == 1 ? model.state.heaps[queue].last : 0;
+        long last = heap(queue).last;
         return switch (random.nextInt(24)) {
             case 0 -> -1 - random.nextInt(2);
             case 1 -> Model.TOP + random.nextInt(2);
-            case 2 -> random.nextLong() & Model.TOP;
-            case 3 -> random.nextLong();
-            case 4 -> last - random.nextInt(3);
-            case 5, 6, 7 -> last + random.nextInt(1 << 20);
-            case 8, 9, 10, 11 -> last + random.nextInt(1000);
+            case 2 -> random.nextLong();
+            case 3 -> last - random.nextInt(3);
+            case 4, 5, 6 -> Math.min(Model.TOP, last + random.nextLong(1L << random.nextInt(40)));
+            case 7, 8, 9, 10, 11 -> last + random.nextInt(1000);
             default -> last + random.nextInt(40);
         };
     }
 
+    /** Mostly one that waits. */
     private int item(int queue) {
-        int came = queue == 0 || queue == 1 ? model.state.heaps[queue].items.size() : 5;
-        return random.nextInt(came + 3) - 1;
+        Model.Heap heap = heap(queue);
+        int waits = heap.waiting().size();
+        if (waits > 0 && !one(3)) {
+            return heap.waiting().get(random.nextInt(waits));
+        }
+        return random.nextInt(heap.items.size() + 3) - 1;
     }
 
     // ---- plans
 
     private void planCall() {
-        int bits = one(12) ? random.nextInt(7) - 1 : 1 + random.nextInt(4);
-        int what = random.nextInt(10) - 1;
-        int k = random.nextInt(30) - 1;
         switch (random.nextInt(10)) {
-            case 0 -> readText(true, planText());
-            case 1, 2 -> same("taken(" + bits + ", " + k + ", " + what % 3 + ")",
-                    () -> real.taken(bits, k, what % 3), () -> model.taken(bits, k, what % 3));
+            case 0 -> readText(true, texts.plan());
+            case 1, 2 -> askTaken(bits());
             case 3 -> same("fewest()", real::fewest, model::fewest);
-            default -> same("run(" + bits + ", " + what + ")", () -> real.run(bits, what),
-                    () -> model.run(bits, what));
+            default -> askRun(bits(), what(7));
         }
     }
 
-    private String planText() {
-        StringBuilder text = new StringBuilder();
-        int range = 1 << random.nextInt(30);
-        steps(text, 0, 1 + random.nextInt(one(3) ? 60 : 12), range);
-        return spoil(text);
+    private void askTaken(int bits) {
+        long all = bits >= 1 && bits <= 4 ? model.run(bits, 2) : 1;
+        askTaken(bits, random.nextInt((int) all + 2) - (one(10) ? 1 : 0), what(1));
     }
 
-    private void steps(StringBuilder text, int depth, int count, int range) {
-        for (int i = 0; i < count; i++) {
-            blank(text);
-            switch (random.nextInt(10)) {
-                case 0, 1, 2, 3 -> text.append("push").append(gap()).append(random.nextInt(range));
-                case 4, 5, 6 -> text.append("pop");
-                case 7 -> text.append("less").append(gap()).append(random.nextInt(12)).append(' ')
-                        .append(gap()).append(random.nextInt(range));
-                case 8 -> text.append("drop").append(gap()).append(random.nextInt(12));
-                default -> again(text, depth, range);
-            }
-            blank(text);
-            text.append(';');
-        }
-        blank(text);
+    private void askTaken(int bits, int k, int what) {
+        same("taken(" + bits + ", " + k + ", " + what + ")", () -> real.taken(bits, k, what),
+                () -> model.taken(bits, k, what));
     }
 
-    private void again(StringBuilder text, int depth, int range) {
-        if (depth == 3 && !one(20)) {
-            text.append("pop");
-            return;
-        }
-        text.append("again").append(gap()).append(random.nextInt(one(5) ? 51 : 5));
-        blank(text);
-        text.append('[');
-        steps(text, depth + 1, random.nextInt(4), range);
-        text.append(']');
+    private void askRun(int bits, int what) {
+        same("run(" + bits + ", " + what + ")", () -> real.run(bits, what), () -> model.run(bits, what));
     }
 
     // ---- charts
 
     private void chartCall() {
-        int bits = one(12) ? random.nextInt(7) - 1 : 1 + random.nextInt(4);
-        int from = one(12) ? random.nextInt(20) - 2 : random.nextInt(16);
-        int to = one(12) ? random.nextInt(20) - 2 : random.nextInt(16);
-        int what = random.nextInt(8) - 1;
-        int more = random.nextInt(14) - 1;
-        int k = random.nextInt(one(2) ? 20 : 202) - 1;
-        long till = one(12) ? key(0) : random.nextLong() & (1L << random.nextInt(40)) - 1;
-        switch (random.nextInt(12)) {
-            case 0 -> readText(false, chartText());
-            case 1, 2, 3, 4 -> same("way(" + bits + ", " + from + ", " + to + ", " + what + ")",
-                    () -> real.way(bits, from, to, what), () -> model.way(bits, from, to, what));
-            case 5, 6 -> same("ways(" + bits + ", " + from + ", " + what + ")",
-                    () -> real.ways(bits, from, what), () -> model.ways(bits, from, what));
-            case 7 -> same("nodes(" + bits + ", " + from + ", " + to + ")",
-                    () -> real.nodes(bits, from, to), () -> model.nodes(bits, from, to));
-            case 8, 9 -> same("replay(" + bits + ", " + till + ", " + more + ")",
-                    () -> real.replay(bits, till, more), () -> model.replay(bits, till, more));
-            default -> same("happened(" + bits + ", " + till + ", " + k + ", " + what % 3 + ")",
-                    () -> real.happened(bits, till, k, what % 3), () -> model.happened(bits, till, k, what % 3));
+        if (one(20)) {
+            readText(false, texts.chart());
+            return;
+        }
+        switch (random.nextInt(11)) {
+            case 0, 1, 2 -> askWay(bits(), node(), node(), what(5));
+            case 3, 4 -> askWays(bits(), node(), what(4));
+            case 5, 6 -> askNodes(bits(), node(), node());
+            case 7, 8 -> askReplay(bits(), till(), what(11));
+            default -> askHappened(bits(), till());
         }
     }
 
-    private String chartText() {
-        StringBuilder text = new StringBuilder();
-        int lines = random.nextInt(50);
-        int nodes = 2 + random.nextInt(15);
-        int range = 1 << random.nextInt(30);
-        int sort = random.nextInt(4);
-        for (int i = 0; i < lines; i++) {
-            int which = sort == 3 ? random.nextInt(3) : one(8) ? random.nextInt(3) : sort;
-            switch (which) {
-                case 0 -> text.append("edge").append(gap()).append(random.nextInt(nodes)).append(' ')
-                        .append(random.nextInt(nodes)).append(' ').append(random.nextInt(range));
-                case 1 -> text.append("event").append(gap()).append(letter()).append(gap())
-                        .append(random.nextInt(range));
-                default -> text.append("rule").append(gap()).append(letter()).append(gap())
-                        .append(random.nextInt(range)).append(gap()).append(letter());
-            }
-            blank(text);
-            text.append(';');
-        }
-        return spoil(text);
+    private void askWay(int bits, int from, int to, int what) {
+        same("way(" + bits + ", " + from + ", " + to + ", " + what + ")",
+                () -> real.way(bits, from, to, what), () -> model.way(bits, from, to, what));
     }
 
-    private char letter() {
-        return (char) ('A' + random.nextInt(one(100) ? 12 : one(2) ? 2 : 8));
+    private void askWays(int bits, int from, int what) {
+        same("ways(" + bits + ", " + from + ", " + what + ")",
+                () -> real.ways(bits, from, what), () -> model.ways(bits, from, what));
+    }
+
+    private void askNodes(int bits, int from, int to) {
+        same("nodes(" + bits + ", " + from + ", " + to + ")",
+                () -> real.nodes(bits, from, to), () -> model.nodes(bits, from, to));
+    }
+
+    private void askReplay(int bits, long till, int what) {
+        same("replay(" + bits + ", " + till + ", " + what + ")",
+                () -> real.replay(bits, till, what), () -> model.replay(bits, till, what));
+    }
+
+    private void askHappened(int bits, long till) {
+        boolean stands = bits >= 1 && bits <= 4 && till >= 0 && till <= Model.TOP;
+        long all = stands ? model.replay(bits, till, 0) : 1;
+        askHappened(bits, till, random.nextInt((int) all + 2) - (one(10) ? 1 : 0), what(1));
+    }
+
+    private void askHappened(int bits, long till, int k, int what) {
+        same("happened(" + bits + ", " + till + ", " + k + ", " + what + ")",
+                () -> real.happened(bits, till, k, what), () -> model.happened(bits, till, k, what));
+    }
+
+    /** Mostly one that an edge of the chart goes from or to. */
+    private int node() {
+        if (model.edges.isEmpty() || one(5)) {
+            return one(6) ? random.nextInt(20) - 2 : random.nextInt(16);
+        }
+        return (int) model.edges.get(random.nextInt(model.edges.size()))[random.nextInt(2)];
+    }
+
+    private long till() {
+        return switch (random.nextInt(20)) {
+            case 0 -> -1 - random.nextInt(2);
+            case 1, 2, 3 -> Model.TOP + (one(3) ? 1 : 0);
+            case 4, 5, 6, 7, 8 -> random.nextInt(60);
+            default -> random.nextLong(1L << random.nextInt(41));
+        };
     }
 
     // ---- texts
@@ -303,14 +437,17 @@ public final class ModelTest {
         switch (random.nextInt(6)) {
             case 0 -> same("fault()", real::fault, model::fault);
             case 1 -> {
-                int what = random.nextInt(7);
+                int what = what(6);
                 same("told(" + what + ")", () -> real.told(what), () -> model.told(what));
             }
             case 2 -> {
                 int word = random.nextInt();
                 feed(word, word * 31, word * 37, word * 41, word * 43);
             }
-            default -> readText(one(2), one(2) ? planText() : chartText());
+            default -> {
+                boolean asPlan = one(2);
+                readText(asPlan, asPlan != one(12) ? texts.plan() : texts.chart());
+            }
         }
     }
 
@@ -329,39 +466,18 @@ public final class ModelTest {
     }
 
     private void feed(int a, int b, int c, int d, int e) {
-        same("feed(..)", () -> real.feed(a, b, c, d, e), () -> model.feed(a, b, c, d, e));
+        same("feed(" + a + ", ..)", () -> real.feed(a, b, c, d, e), () -> model.feed(a, b, c, d, e));
     }
 
-    private String gap() {
-        return one(3) ? "" : one(6) ? "  " : " ";
+    // ---- numbers
+
+    private int bits() {
+        return one(20) ? random.nextInt(7) - 1 : 1 + random.nextInt(4);
     }
 
-    private void blank(StringBuilder text) {
-        if (one(6)) {
-            text.append(' ');
-        }
-    }
-
-    /** Now and then something is left out, put in or cut off; no longer than the tape. */
-    private String spoil(StringBuilder text) {
-        if (text.length() > 500) {
-            text.setLength(500);
-        }
-        while (text.length() > 0 && one(3)) {
-            int at = random.nextInt(text.length());
-            String signs = " ;[]0159AHIZaz" + (char) 0 + (char) 200;
-            char sign = signs.charAt(random.nextInt(signs.length()));
-            switch (random.nextInt(4)) {
-                case 0 -> text.deleteCharAt(at);
-                case 1 -> text.setCharAt(at, sign);
-                case 2 -> text.insert(at, sign);
-                default -> text.setLength(one(4) ? at : text.length());
-            }
-        }
-        if (text.length() > 500) {
-            text.setLength(500);
-        }
-        return text.toString();
+    /** 0 to most; one beside it now and then. */
+    private int what(int most) {
+        return one(20) ? (one(2) ? -1 : most + 1) : random.nextInt(most + 1);
     }
 
     private boolean one(int of) {
